@@ -595,7 +595,9 @@ public final class TwinConsole {
             }
             cyclesLeft += cycles;
             for (int k = 0; k < cycles && cyclesLeft > 0; k++) {
-                cyclesLeft -= halted ? HALTED_CYCLES : instruct();
+                // Not in one line: reading ROM takes cycles too, and -= would look at cyclesLeft before that.
+                int cyclesOfOne = halted ? HALTED_CYCLES : instruct();
+                cyclesLeft -= cyclesOfOne;
             }
         }
 
