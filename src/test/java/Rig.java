@@ -69,6 +69,24 @@ final class Rig {
         return register(14, 2).control(2 * k, VRAM).data(words);
     }
 
+    /** Three steps that make S any word; D7 holds it then. */
+    Rig stackAt(int s) {
+        return write(600, s).read(7, 600).put(0x4E67);
+    }
+
+    /** Six steps that go to any address with any MASK and flags; S is 638 then. */
+    Rig jump(int target, int maskAndFlags) {
+        return write(632, maskAndFlags).write(636, target).stackAt(632).put(RTE);
+    }
+
+    /** Words at any address of ROM. */
+    Rig at(int address, int... words) {
+        for (int k = 0; k < words.length; k++) {
+            x.rom(address / 2 + k, words[k]);
+        }
+        return this;
+    }
+
     /** Starts from 128, without a step. */
     Rig start() {
         x.reset();
