@@ -28,7 +28,7 @@ final class Rig {
 
     Rig put(int... words) {
         for (int w : words) {
-            x.rom(next, w);
+            Check.due("the program's room", x.rom(next, w), true);
             next++;
         }
         return this;
