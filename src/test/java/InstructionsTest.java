@@ -150,7 +150,8 @@ public final class InstructionsTest {
         int[][] cases = {
             {1, 2, 3, 0}, {0, 0, 0, Z}, {0xFFFF, 1, 0, Z + C}, {0x7FFF, 1, 0x8000, N + V},
             {0x8000, 0x8000, 0, Z + V + C}, {0x8000, 0xFFFF, 0x7FFF, V + C}, {0xFFFF, 0xFFFF, 0xFFFE, N + C},
-            {0x8000, 1, 0x8001, N}, {0x4000, 0x3FFF, 0x7FFF, 0}, {0xFFFF, 0x7FFF, 0x7FFE, C}};
+            {0x8000, 1, 0x8001, N}, {0x4000, 0x3FFF, 0x7FFF, 0}, {0xFFFF, 0x7FFF, 0x7FFE, C},
+            {0xFFFE, 1, 0xFFFF, N}};
         for (int[] one : cases) {
             Rig rig = new Rig().put(0x76FF).write(512, one[0]).write(514, one[1]).read(3, 512).read(5, 514)
                 .put(0xD645).start();
@@ -179,6 +180,10 @@ public final class InstructionsTest {
             rig.dueRegister(what + " leaves the other", 1, one[1]);
             rig.dueRegister(what, 10, 0x700 + one[2]);
         }
+        Rig rig = new Rig().put(0x7E09, 0x7C05, 0xBE46, 0xBC47).start().steps(3);
+        rig.dueRegister("D7 - D6", 10, 0x700);
+        rig.steps(1);
+        rig.dueRegister("D6 - D7", 10, 0x700 + N + C);
     }
 
     private static void branches() {
@@ -245,6 +250,11 @@ public final class InstructionsTest {
         rig.dueRegister("PC from the word at 2", 9, 0x456);
         rig.dueRegister("S counts modulo 65536", 8, 4);
 
+        rig = new Rig().write(620, 0x505).write(624, 302).stackAt(621).put(Rig.RTE).start().steps(6);
+        rig.dueRegister("odd S: 0 is read", 10, 0);
+        rig.dueRegister("odd S: 0 is read", 9, 0);
+        rig.dueRegister("odd S: S", 8, 627);
+
         // The stack is read quietly: STATUS would end waiting for a word, POSITION would not be 0.
         rig = new Rig().stackAt(1028).write(Rig.CONTROL, 0x4000).put(Rig.RTE).start().steps(5);
         rig.dueRegister("0 read at CONTROL", 10, 0);
@@ -271,6 +281,12 @@ public final class InstructionsTest {
         rig.dueStep("odd S", 34);
         rig.dueRegister("S counts modulo 65536", 8, 65533);
         rig.dueMemory("nothing written", 634, 99);
+
+        rig = new Rig().write(614, 97).write(616, 98).write(618, 99).stackAt(621).put(0x4AFC).start().steps(7);
+        rig.dueMemory("odd S in RAM: nothing written", 614, 97);
+        rig.dueMemory("odd S in RAM: nothing written", 616, 98);
+        rig.dueMemory("odd S in RAM: nothing written", 618, 99);
+        rig.dueRegister("S", 8, 615);
 
         rig = new Rig().write(634, 99).put(0x4AFC).start().steps(2);
         rig.dueMemory("0 is written", 634, 0);

@@ -38,6 +38,7 @@ public final class MovesTest {
         rig.dueVideo("ADDRESS grows", 4, 0, 0x102);
         rig.dueVideo("register 11 stays as long", 3, 11, 3);
         rig.dueStep("a word", 2);
+        rig.dueVideo("register 11 stays as long", 3, 11, 3);
         rig.dueRegister("frozen", 11, 2);
         rig.dueStep("a word", 2);
         rig.dueRegister("frozen no more", 11, 0);

@@ -5,6 +5,7 @@ public final class SecondProcessorTest {
 
     public static void main(String[] args) {
         everyCost();
+        costsOfJumps();
         costsInRom();
         loadsAndMoves();
         counting();
@@ -14,6 +15,7 @@ public final class SecondProcessorTest {
         jumpsAndHalts();
         addressesWrap();
         interruptsLetIn();
+        interruptCycles();
         interruptsNotTaken();
         held();
         resets();
@@ -58,6 +60,34 @@ public final class SecondProcessorTest {
                 rig.dueRegister("byte " + op + " with " + given + " cycles", 15, length * done);
                 rig.steps(1);
             }
+        }
+    }
+
+    private static void costsOfJumps() {
+        Rig jumps = new Rig();
+        Rig taken = new Rig();
+        Rig notTaken = seeded(0, 0x3E, 1, 0x3D);
+        for (int k = 0; k < 40; k++) {
+            seed(jumps, 3 * k, 0xC3, 3 * k + 3, 0);
+            seed(taken, 2 * k, 0x20, 0);
+            seed(notTaken, 3 + 2 * k, 0x20, 0x30);
+        }
+        Rig back = seeded(0, 0x3C, 0xC9);
+        out(jumps);
+        out(taken);
+        out(notTaken);
+        out(back);
+        for (int given = 16; given < 100; given += 4) {
+            jumps.dueRegister("jumps with " + given, 15, 3 * ((given + 9) / 10));
+            taken.dueRegister("branches with " + given, 15, 2 * ((given + 11) / 12));
+            notTaken.dueRegister("branches by Z with " + given, 15, 3 + 2 * ((given - 11 + 6) / 7));
+            // A + 1 of 4 cycles, then PC from H, of 10.
+            back.dueRegister("rounds begun with " + given, 12, (given + 13) / 14);
+            back.dueRegister("rounds ended with " + given, 15, given % 14 > 0 && given % 14 <= 4 ? 1 : 0);
+            jumps.steps(1);
+            taken.steps(1);
+            notTaken.steps(1);
+            back.steps(1);
         }
     }
 
@@ -152,10 +182,10 @@ public final class SecondProcessorTest {
 
     private static void romBytes() {
         // High half first, address modulo 512, from 32768 to the end.
-        int[][] cases = {{0x00, 0x81, 0x12}, {0x01, 0x81, 0x34}, {0x00, 0x83, 0x12}, {0xFF, 0xFF, 0x78},
+        int[][] cases = {{0x00, 0x81, 0x12}, {0x01, 0x81, 0x35}, {0x00, 0x83, 0x12}, {0xFF, 0xFF, 0x79},
             {0xFE, 0xFF, 0x56}, {0x03, 0x80, 0x7E}};
         for (int[] one : cases) {
-            Rig rig = seeded(0, 0x3A, one[0], one[1], 0x76).at(256, 0x1234).at(510, 0x5678);
+            Rig rig = seeded(0, 0x3A, one[0], one[1], 0x76).at(256, 0x1235).at(510, 0x5679);
             out(rig);
             rig.dueRegister("byte " + one[0] + " " + one[1], 12, one[2]);
             // 16 given, 13 + 3 done: nothing is left for HALT.
@@ -171,6 +201,9 @@ public final class SecondProcessorTest {
         rig.dueStep("waiting", 4);
         rig.dueRegister("the next", 13, 9);
         rig.dueMemory("ROM stays", 256, 0x1234);
+        rig = out(seeded(0, 0x3E, 9, 0x32, 0, 0x80));
+        rig.write(Rig.RESET, 0).go();
+        rig.dueMemory("byte 0 stays", 768, 0x3E3E);
         // 32767 is RAM, 32768 is ROM.
         rig = seeded(0, 0x3A, 0xFF, 0x7F, 0x76);
         rig.x.seed(127, 3);
@@ -291,6 +324,28 @@ public final class SecondProcessorTest {
         rig.dueRegister("PC", 15, 56);
     }
 
+    /** Behind an interrupt come instructions of 7 cycles: they tell what was owed, to the cycle. */
+    private static void interruptCycles() {
+        int[][] programs = {{0xFB, 0x76}, {0x00, 0xFB, 0x76}, {0xFB, 0x3E, 9, 0x76}, {0xFB, 0x3E, 9, 0x3E, 9, 0x76},
+            {0xFB, 0x3A, 9, 0, 0x76}};
+        int[] owed = {0, 0, 3, 2, 1};
+        for (int p = 0; p < programs.length; p++) {
+            Rig rig = seeded(0, programs[p]);
+            for (int k = 56; k < 126; k += 2) {
+                seed(rig, k, 0x3E, 1);
+            }
+            out(rig);
+            upTo(rig, 16, 512);
+            rig.dueRegister("H", 14, programs[p].length);
+            for (int given = 0; given < 80; given += 4) {
+                int left = given - 13 - owed[p];
+                int done = left > 0 ? (left + 6) / 7 : 0;
+                rig.dueRegister("program " + p + " with " + given, 15, 56 + 2 * done);
+                rig.steps(1);
+            }
+        }
+    }
+
     private static void interruptsNotTaken() {
         Rig rig = seeded(0, 0xFB, 0xF3, 0x76);
         out(rig);
@@ -362,6 +417,18 @@ public final class SecondProcessorTest {
         rig.steps(3);
         rig.dueRegister("HELD it stays", 16, 8);
         rig.dueRegister("PC", 15, 0);
+        rig = seeded(0, 0x3E, 5, 0x47, 0x67, 0xFB, 0x76);
+        rig.write(Rig.RESET, 256).put(Rig.NOP, Rig.NOP, Rig.NOP).write(Rig.BUSREQ, 256).write(Rig.RESET, 0)
+            .write(Rig.RESET, 256).start().steps(6);
+        rig.dueRegister("A before", 12, 5);
+        rig.dueRegister("B before", 13, 5);
+        rig.dueRegister("H before", 14, 5);
+        rig.dueRegister("the rest before", 16, 2 + 4 + 8 + 16);
+        rig.steps(1);
+        for (int r = 12; r < 16; r++) {
+            rig.dueRegister("all is 0", r, 0);
+        }
+        rig.dueRegister("HELD it stays", 16, 8);
         // What it owes is 0 too: put in RESET owing 9, then 16 given are 4 instructions.
         rig = seeded(0, 0x00, 0x00, 0x00, 0x00, 0x3A, 0, 0);
         rig.write(Rig.RESET, 256).put(Rig.NOP).write(Rig.RESET, 0).write(Rig.RESET, 256).start().steps(3);
