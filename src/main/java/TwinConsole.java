@@ -396,6 +396,12 @@ public final class TwinConsole {
             carry = false;
         }
 
+        private void setReckonedFlags(int signed, boolean carried) {
+            setMoveFlags((short) signed);
+            overflow = signed != (short) signed;
+            carry = carried;
+        }
+
         private void setLowWord(int n, int w) {
             d[n] = (d[n] & 0xFFFF0000) | (w & 0xFFFF);
         }
@@ -442,12 +448,9 @@ public final class TwinConsole {
             int n = (w >> 9) & 7;
             int left = d[n];
             int right = d[w & 7];
-            int signed = (short) left + (short) right;
-            carry = (left & 0xFFFF) + (right & 0xFFFF) > 0xFFFF;
-            overflow = signed != (short) signed;
-            negative = (short) signed < 0;
-            zero = (short) signed == 0;
-            setLowWord(n, signed);
+            int sum = (short) left + (short) right;
+            setReckonedFlags(sum, (left & 0xFFFF) + (right & 0xFFFF) > 0xFFFF);
+            setLowWord(n, sum);
             return 4;
         }
 
@@ -457,11 +460,7 @@ public final class TwinConsole {
             }
             int left = d[(w >> 9) & 7];
             int right = d[w & 7];
-            int signed = (short) left - (short) right;
-            carry = (left & 0xFFFF) < (right & 0xFFFF);
-            overflow = signed != (short) signed;
-            negative = (short) signed < 0;
-            zero = (short) signed == 0;
+            setReckonedFlags((short) left - (short) right, (left & 0xFFFF) < (right & 0xFFFF));
             return 4;
         }
 

@@ -23,15 +23,6 @@ public final class LinesTest {
         return rig.put(Rig.STOP, 0x700).start();
     }
 
-    /** Steps until so many cycles are done since the object was made. */
-    private static void upTo(Rig rig, int done, int cycles) {
-        int rest = cycles - done;
-        while (rest > 0) {
-            rest -= rig.x.step();
-        }
-        Check.due("the test's own cycles", rest, 0);
-    }
-
     private static void position() {
         Rig rig = new Rig().read(0, Rig.POSITION).read(1, Rig.POSITION).put(0x60F6).start();
         int line = 0;
@@ -55,23 +46,23 @@ public final class LinesTest {
     private static void levelSix() {
         for (int bit = 0; bit < 8; bit++) {
             Rig rig = waiting(new Rig().register(1, 1 << bit));
-            upTo(rig, 0, 8 * 64 - 4);
+            rig.upTo(0, 8 * 64 - 4);
             rig.dueVideo("before line 8", 4, 3, 0);
             rig.steps(1);
             rig.dueVideo("line 8 begins, register 1 bit " + bit, 4, 3, bit == 5 ? 6 : 0);
             rig.dueRegister("MASK 7 waits on", 11, 1);
         }
         Rig rig = waiting(new Rig().register(1, 32));
-        upTo(rig, 0, 12 * 64);
+        rig.upTo(0, 12 * 64);
         rig.register(1, 0).put(Rig.STOP, 0x700).start();
-        upTo(rig, 0, 12 * 64);
+        rig.upTo(0, 12 * 64);
         rig.dueVideo("it stays pending", 4, 3, 6);
     }
 
     private static void levelFour() {
         for (int bit = 0; bit < 8; bit++) {
             Rig rig = waiting(new Rig().register(0, 1 << bit));
-            upTo(rig, 0, 60);
+            rig.upTo(0, 60);
             rig.dueVideo("before line 1", 4, 3, 0);
             rig.steps(1);
             rig.dueVideo("line 1 begins, register 0 bit " + bit, 4, 3, bit == 4 ? 4 : 0);
@@ -105,9 +96,9 @@ public final class LinesTest {
     private static void counterAt(int value, int line, boolean told) {
         Rig rig = waiting(new Rig().register(8, value));
         int before = 64 * line - 40;
-        upTo(rig, 0, before);
+        rig.upTo(0, before);
         waiting(rig.register(0, 16));
-        upTo(rig, before, 64 * line - 4);
+        rig.upTo(before, 64 * line - 4);
         rig.dueVideo("before line " + line, 4, 3, 0);
         rig.steps(1);
         rig.dueVideo("register 8 = " + value + ": line " + line, 4, 3, told ? 4 : 0);
@@ -116,11 +107,11 @@ public final class LinesTest {
     /** In lines 8 .. 11 the counter becomes register 8 at each beginning, and nothing is pending for it. */
     private static void counterInHiddenLines() {
         Rig rig = new Rig().register(8, 200).put(Rig.STOP, 0x700).start();
-        upTo(rig, 0, 11 * 64 - 60);
+        rig.upTo(0, 11 * 64 - 60);
         rig.register(8, 2).register(0, 16).put(Rig.STOP, 0x700).start();
-        upTo(rig, 11 * 64 - 60, 11 * 64);
+        rig.upTo(11 * 64 - 60, 11 * 64);
         rig.register(8, 5).put(Rig.STOP, 0x700).start();
-        upTo(rig, 11 * 64, 14 * 64 - 4);
+        rig.upTo(11 * 64, 14 * 64 - 4);
         rig.dueVideo("2 of line 11 fell to 0 at line 1", 4, 3, 0);
         rig.steps(1);
         rig.dueVideo("it was 0 at line 2", 4, 3, 4);
@@ -128,7 +119,7 @@ public final class LinesTest {
 
     private static void higherFirst() {
         Rig rig = waiting(new Rig().register(1, 32).register(0, 16));
-        upTo(rig, 0, 9 * 64);
+        rig.upTo(0, 9 * 64);
         rig.dueVideo("both", 4, 3, 10);
         rig.put(Rig.STOP, 0x30A).at(440, Rig.RTE).at(420, Rig.NOP).start().steps(1);
         rig.dueStep("level 6", 44);
@@ -153,12 +144,12 @@ public final class LinesTest {
     private static void masks() {
         for (int mask = 0; mask < 8; mask++) {
             Rig rig = waiting(new Rig().register(1, 32));
-            upTo(rig, 0, 9 * 64);
+            rig.upTo(0, 9 * 64);
             rig.jump(300, 256 * mask).at(300, Rig.NOP).start().steps(6);
             rig.dueStep("level 6 with MASK " + mask, mask < 6 ? 44 : 4);
             rig.dueRegister("MASK then", 10, mask < 6 ? 0x600 : 256 * mask);
             rig = waiting(new Rig().register(0, 16));
-            upTo(rig, 0, 9 * 64);
+            rig.upTo(0, 9 * 64);
             rig.jump(300, 256 * mask).at(300, Rig.NOP).start().steps(6);
             rig.dueStep("level 4 with MASK " + mask, mask < 4 ? 44 : 4);
             rig.dueRegister("MASK then", 10, mask < 4 ? 0x400 : 256 * mask);
@@ -167,7 +158,7 @@ public final class LinesTest {
 
     private static void waitingEnds() {
         Rig rig = new Rig().register(1, 32).put(Rig.STOP, 0x500, 0x7001).at(440, 0x7209, Rig.RTE).start();
-        upTo(rig, 0, 512);
+        rig.upTo(0, 512);
         rig.dueRegister("waits", 11, 1);
         rig.dueStep("the interrupt", 44);
         rig.dueRegister("waits no more", 11, 0);
@@ -180,21 +171,21 @@ public final class LinesTest {
 
     private static void pendingAtStatus() {
         Rig rig = new Rig().register(1, 32).put(Rig.STOP, 0x700).start();
-        upTo(rig, 0, 512);
+        rig.upTo(0, 512);
         rig.read(0, Rig.CONTROL).read(1, Rig.CONTROL).start().steps(2);
         rig.dueRegister("line 8 or more, level 6 is pending", 0, 12);
         rig.dueRegister("reading takes neither away", 1, 12);
         rig.put(Rig.STOP, 0x700).start();
-        upTo(rig, 512 + 24, 768);
+        rig.upTo(512 + 24, 768);
         rig.read(0, Rig.CONTROL).start().steps(1);
         rig.dueRegister("line 0, level 6 is pending", 0, 8);
         rig = new Rig().put(Rig.STOP, 0x700).start();
-        upTo(rig, 0, 508);
+        rig.upTo(0, 508);
         rig.read(0, Rig.CONTROL).read(1, Rig.CONTROL).start().steps(2);
         rig.dueRegister("line 7", 0, 0);
         rig.dueRegister("line 8", 1, 4);
         rig = new Rig().register(0, 16).put(Rig.STOP, 0x700).start();
-        upTo(rig, 0, 128);
+        rig.upTo(0, 128);
         rig.dueVideo("level 4", 4, 3, 4);
         rig.read(0, Rig.CONTROL).start().steps(1);
         rig.dueRegister("level 4 isn't in STATUS", 0, 0);
@@ -203,7 +194,7 @@ public final class LinesTest {
     /** With S = 1030 an interrupt goes through the ports as any exception. */
     private static void interruptPortsOrder() {
         Rig rig = new Rig().register(1, 32).put(Rig.STOP, 0x700).start();
-        upTo(rig, 0, 512);
+        rig.upTo(0, 512);
         rig.register(14, 2).control(8, Rig.VRAM).stackAt(1030).put(Rig.STOP, 0x105).start().steps(7);
         rig.dueStep("the interrupt", 44);
         rig.dueVideo("MASK and flags to DATA", 0, 4, 0x105);

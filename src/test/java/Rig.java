@@ -101,6 +101,15 @@ final class Rig {
         return this;
     }
 
+    /** Steps from so many cycles since the object was made to so many. */
+    void upTo(int done, int cycles) {
+        int rest = cycles - done;
+        while (rest > 0) {
+            rest -= x.step();
+        }
+        Check.due("the test's own cycles", rest, 0);
+    }
+
     /** Does the whole program; then the next one may be put. */
     Rig go() {
         int end = here();

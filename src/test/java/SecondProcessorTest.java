@@ -287,19 +287,11 @@ public final class SecondProcessorTest {
         rig.dueStep("one byte", 15);
     }
 
-    private static void upTo(Rig rig, int done, int cycles) {
-        int rest = cycles - done;
-        while (rest > 0) {
-            rest -= rig.x.step();
-        }
-        Check.due("the test's own cycles", rest, 0);
-    }
-
     private static void interruptsLetIn() {
         Rig rig = seeded(0, 0x3E, 1, 0xFB, 0x76, 0x76);
         seed(rig, 56, 0x3C, 0x3C, 0x3C, 0x3C, 0xC9);
         out(rig);
-        upTo(rig, 16, 508);
+        rig.upTo(16, 508);
         rig.dueRegister("HALTED, lets in", 16, 6);
         rig.steps(1);
         rig.dueRegister("told", 15, 56);
@@ -319,7 +311,7 @@ public final class SecondProcessorTest {
         rig = seeded(0, 0xFB, 0xC3, 0x40, 0x01);
         seed(rig, 64, 0xC3, 0x40, 0x01);
         out(rig);
-        upTo(rig, 16, 512);
+        rig.upTo(16, 512);
         rig.dueRegister("H", 14, 0x40);
         rig.dueRegister("PC", 15, 56);
     }
@@ -335,7 +327,7 @@ public final class SecondProcessorTest {
                 seed(rig, k, 0x3E, 1);
             }
             out(rig);
-            upTo(rig, 16, 512);
+            rig.upTo(16, 512);
             rig.dueRegister("H", 14, programs[p].length);
             for (int given = 0; given < 80; given += 4) {
                 int left = given - 13 - owed[p];
@@ -349,17 +341,17 @@ public final class SecondProcessorTest {
     private static void interruptsNotTaken() {
         Rig rig = seeded(0, 0xFB, 0xF3, 0x76);
         out(rig);
-        upTo(rig, 16, 512);
+        rig.upTo(16, 512);
         rig.dueRegister("not let in", 16, 2);
         rig.dueRegister("PC", 15, 3);
         rig = seeded(0, 0xFB, 0x76);
         rig.write(Rig.RESET, 256).put(Rig.NOP).write(Rig.BUSREQ, 256).put(Rig.STOP, 0x700).start();
-        upTo(rig, 0, 520);
+        rig.upTo(0, 520);
         rig.dueRegister("HELD", 16, 2 + 4 + 8);
         rig.dueRegister("PC", 15, 2);
         rig = seeded(0, 0xFB, 0x76);
         rig.write(Rig.RESET, 256).put(Rig.NOP).write(Rig.RESET, 0).put(Rig.STOP, 0x700).start();
-        upTo(rig, 0, 520);
+        rig.upTo(0, 520);
         rig.dueRegister("in RESET", 16, 2 + 4 + 16);
         rig.dueRegister("PC", 15, 2);
     }
@@ -462,7 +454,7 @@ public final class SecondProcessorTest {
         // HALTED it does 4 each: 16 given: 13 + 4 are 17, 1 owed; it owes 1 as line 8 begins.
         rig = seeded(0, 0xFB, 0x3E, 0, 0x76);
         out(rig);
-        upTo(rig, 16, 512);
+        rig.upTo(16, 512);
         rig.steps(4);
         rig.dueRegister("owes 3 and 13: 16 given", 15, 56);
         rig.steps(1);
@@ -485,7 +477,7 @@ public final class SecondProcessorTest {
         // They are not paid by interrupts nor by words moved.
         rig = seeded(0, 0xC3, 0, 0x81);
         rig.register(1, 32).put(Rig.STOP, 0x700).start();
-        upTo(rig, 0, 512);
+        rig.upTo(0, 512);
         rig.write(Rig.RESET, 256).put(Rig.STOP, 0x100).at(440, Rig.NOP).start().steps(1);
         rig.dueStep("paid as it begins to wait", 15);
         rig.dueRegister("another byte", 15, 0x8102);
