@@ -1,16 +1,28 @@
-/** Counts answers that are not the ones that are due. */
+/** Counts answers that are not the ones that are due, and tells the document's sentence that asks for them. */
 final class Check {
     private static final int MOST_TOLD = 50;
     private static int wrong = 0;
+    private static String sentence = "";
 
     private Check() {
+    }
+
+    /** A test of one sentence of the document. */
+    static void that(String words, Runnable test) {
+        sentence = words;
+        try {
+            test.run();
+        } catch (RuntimeException e) {
+            due("a call that threw " + e, true, false);
+        }
+        sentence = "";
     }
 
     static void due(String what, long got, long want) {
         if (got != want) {
             wrong++;
             if (wrong <= MOST_TOLD) {
-                System.out.println(what + " answered " + got + ", due is " + want);
+                System.out.println(what + " answered " + got + ", due is " + want + " by: " + sentence);
             }
         }
     }

@@ -4,13 +4,27 @@ public final class DrawingTest {
     }
 
     public static void main(String[] args) {
-        screenOff();
-        whenALineIsDrawn();
-        turnedNames();
-        patternsAndNames();
-        scrolling();
-        window();
-        order();
+        Check.that("When a line below 8 begins, it is DRAWN", DrawingTest::whenALineIsDrawn);
+        Check.that("register 1's bit 6 0: all are register 7 & 15", DrawingTest::screenOff);
+        Check.that("else register 7 & 15.", DrawingTest::nothingThere);
+        Check.that("A PATTERN is 4 by 4, word 4 p + j of VRAM is its row j, the leftmost pixel in the highest four bits",
+            DrawingTest::patterns);
+        Check.that("0 is seen through", DrawingTest::seenThrough);
+        Check.that("A NAME: bits 0 .. 6 a pattern (the first and the last)", DrawingTest::firstAndLastPattern);
+        Check.that("11 turned left to right, 12 upside down", DrawingTest::turnedNames);
+        Check.that("A NAME: (its other bits count for nothing)", DrawingTest::otherBitsOfNames);
+        Check.that("PLANES A and B: 8 by 4 names at word (register 2 & 15) * 32, or (register 4 & 15) * 32, of VRAM, row by row",
+            DrawingTest::whereNamesStand);
+        Check.that("8 by 4 names, row by row", DrawingTest::everyName);
+        Check.that("(x - HSCROLL) modulo 32", DrawingTest::scrolledAcross);
+        Check.that("(y + VSCROLL) modulo 16", DrawingTest::scrolledDown);
+        Check.that("HSCROLL of A, B is word (register 13 & 31) * 16 of VRAM, or the next", DrawingTest::whereHscrollStands);
+        Check.that("VSCROLL VSRAM's word 0, 1", DrawingTest::whereVscrollStands);
+        Check.that("If x / 4 is less than register 3 & 7: plane A is the WINDOW there: not scrolled either way.",
+            DrawingTest::window);
+        Check.that("plane A is the WINDOW there (plane B is scrolled)", DrawingTest::windowIsOfPlaneA);
+        Check.that("The pixel is the first not seen through of: high A, high B, A, B; else register 7 & 15.",
+            DrawingTest::order);
         Check.end();
     }
 
@@ -23,16 +37,8 @@ public final class DrawingTest {
             .vram(4, 0x1234, 0x5670, 0x89AB, 0xCDEF);
     }
 
-    private static void screenOff() {
-        for (int bits = 0; bits < 256; bits += 51) {
-            Rig rig = picture().vram(32, 1, 1, 1, 1).register(1, bits & 0xAF).register(7, bits).draw();
-            for (int y = 0; y < 8; y++) {
-                String line = Integer.toHexString(bits & 15).repeat(16);
-                rig.dueLine("off", y, line);
-            }
-        }
-        Rig rig = picture().register(7, 0xF6).draw();
-        rig.dueLine("nothing but what is behind", 5, "6666666666666666");
+    private static Rig vsram(Rig rig, int... words) {
+        return rig.register(14, 2).control(0, Rig.VSRAM).data(words);
     }
 
     /** A line is drawn as it begins, with what is there then. */
@@ -56,79 +62,167 @@ public final class DrawingTest {
         Check.due("line 1 stays", rig.x.pixel(0, 1), 1);
     }
 
-    private static void turnedNames() {
-        Rig rig = picture().vram(32, 1, 0x801, 0x1001, 0x1801).draw();
-        rig.dueLine("row 0", 0, "12344321cdeffedc");
-        rig.dueLine("row 1", 1, "5670076589abba98");
-        rig.dueLine("row 2", 2, "89abba9856700765");
-        rig.dueLine("row 3", 3, "cdeffedc12344321");
-        rig.dueLine("the next names", 4, "0000000000000000");
-        rig = picture().vram(64, 1, 0x801, 0x1001, 0x1801).draw();
-        rig.dueLine("plane B alike", 0, "12344321cdeffedc");
-        rig.dueLine("plane B alike", 3, "cdeffedc12344321");
+    private static void screenOff() {
+        for (int bits = 0; bits < 256; bits += 51) {
+            Rig rig = picture().vram(32, 1, 1, 1, 1).register(1, bits & 0xAF).register(7, bits).draw();
+            for (int y = 0; y < 8; y++) {
+                rig.dueLine("off", y, Integer.toHexString(bits & 15).repeat(16));
+            }
+        }
+        // The bit counts as each line begins.
+        Rig rig = picture().vram(32, 1).register(7, 5).draw();
+        rig.dueLine("on", 0, "1234555555555555");
+        rig.register(1, 0xBF).draw();
+        rig.dueLine("off", 0, "5555555555555555");
     }
 
-    private static void patternsAndNames() {
-        // Pattern 127 is the last words of VRAM; bits 7 .. 10, 13, 14 of a name count for nothing.
-        Rig rig = picture().vram(508, 0x9999, 0x8888, 0x7777, 0x6666).vram(40, 0x67FF, 0x007F).draw();
-        rig.dueLine("row 1 of names, row 0 of the pattern", 4, "9999999900000000");
-        rig.dueLine("row 1 of names, row 3 of the pattern", 7, "6666666600000000");
-        rig.dueLine("row 0 of names", 3, "0000000000000000");
-        // Register 2's and 4's low four bits alone; the last 32 words can hold names.
-        rig = picture().register(2, 0xFF).register(4, 0x72).vram(480, 1).vram(65, 1).draw();
+    private static void nothingThere() {
+        int[] values = {0, 5, 15, 16, 0xF6, 0xFF};
+        for (int value : values) {
+            Rig rig = picture().register(7, value).draw();
+            for (int y = 0; y < 8; y++) {
+                rig.dueLine("register 7 = " + value, y, Integer.toHexString(value & 15).repeat(16));
+            }
+        }
+    }
+
+    private static void patterns() {
+        Rig rig = picture().vram(8, 0xFEDC, 0xBA98, 0x7654, 0x3210).vram(32, 1, 2).draw();
+        rig.dueLine("row 0", 0, "1234fedc00000000");
+        rig.dueLine("row 1", 1, "5670ba9800000000");
+        rig.dueLine("row 2", 2, "89ab765400000000");
+        rig.dueLine("row 3", 3, "cdef321000000000");
+    }
+
+    private static void seenThrough() {
+        Rig rig = picture().register(7, 9).vram(4, 0x1010, 0x0101, 0, 0).vram(8, 0x2200, 0x2200).vram(32, 1).vram(64, 2).draw();
+        rig.dueLine("row 0", 0, "1219999999999999");
+        rig.dueLine("row 1", 1, "2191999999999999");
+        rig.dueLine("row 2", 2, "9999999999999999");
+    }
+
+    private static void firstAndLastPattern() {
+        // Word 0 .. 3 is pattern 0, all names are 0.
+        Rig rig = new Rig().register(1, 64).register(2, 1).register(4, 1).register(5, 3).register(13, 1)
+            .vram(0, 0x1234, 0x5678).draw();
+        rig.dueLine("pattern 0", 0, "1234123412341234");
+        rig.dueLine("pattern 0", 1, "5678567856785678");
+        rig.dueLine("pattern 0", 4, "1234123412341234");
+        // Pattern 127 is the last words of VRAM.
+        rig = picture().vram(508, 0x9999, 0x8888, 0x7777, 0x6666).vram(40, 127).draw();
+        rig.dueLine("row 0", 4, "9999000000000000");
+        rig.dueLine("row 3", 7, "6666000000000000");
+        rig.dueLine("above", 3, "0000000000000000");
+    }
+
+    private static void turnedNames() {
+        for (int plane = 1; plane < 3; plane++) {
+            Rig rig = picture().vram(32 * plane, 1, 0x801, 0x1001, 0x1801).draw();
+            rig.dueLine("row 0", 0, "12344321cdeffedc");
+            rig.dueLine("row 1", 1, "5670076589abba98");
+            rig.dueLine("row 2", 2, "89abba9856700765");
+            rig.dueLine("row 3", 3, "cdeffedc12344321");
+            rig.dueLine("the next names", 4, "0000000000000000");
+        }
+    }
+
+    private static void otherBitsOfNames() {
+        // Bits 7 .. 10, 13, 14.
+        Rig rig = picture().vram(32, 0x6781, 1, 0x0081, 0x4001).draw();
+        rig.dueLine("row 0", 0, "1234123412341234");
+        rig.dueLine("row 3", 3, "cdefcdefcdefcdef");
+    }
+
+    private static void whereNamesStand() {
+        // The low four bits alone; the last 32 words can hold names.
+        Rig rig = picture().register(2, 0xFF).register(4, 0x72).vram(480, 1).vram(65, 1).draw();
         rig.dueLine("plane A at word 480, plane B at 64", 0, "1234123400000000");
         rig.dueLine("plane A at word 480, plane B at 64", 2, "89ab89ab00000000");
+        rig = picture().register(2, 0xF2).register(4, 0xEF).vram(480, 1).vram(65, 1).draw();
+        rig.dueLine("plane B at word 480, plane A at 64", 0, "1234123400000000");
+        for (int k = 2; k < 16; k++) {
+            rig = picture().register(2, k).register(4, 1).register(5, 1).vram(32 * k, 1).draw();
+            rig.dueLine("plane A at word " + 32 * k, 0, "1234000000000000");
+        }
     }
 
-    private static void scrolling() {
-        int[] across = {0, 1, 3, 4, 5, 31, 32, 33, 0xFFFF, 0x8010};
+    /** One name of 32 is pattern 1; the plane is scrolled so that it is seen at the upper left. */
+    private static void everyName() {
+        for (int plane = 0; plane < 2; plane++) {
+            for (int k = 0; k < 32; k++) {
+                int across = 32 - k % 8 * 4;
+                int down = k / 8 * 4;
+                Rig rig = vsram(picture().vram(32 + 32 * plane + k, 1).vram(16 + plane, across),
+                    plane == 0 ? down : 0, plane == 1 ? down : 0).draw();
+                rig.dueLine("name " + k, 0, "1234000000000000");
+                rig.dueLine("name " + k, 3, "cdef000000000000");
+                rig.dueLine("name " + k, 4, "0000000000000000");
+            }
+        }
+    }
+
+    private static void scrolledAcross() {
+        int[] across = {0, 1, 3, 4, 5, 15, 16, 31, 32, 33, 0x7FFF, 0x8000, 0x8010, 0xFFFF};
         String row = "1234" + "0".repeat(24) + "4321";
         for (int h : across) {
-            Rig rig = picture().vram(32, 1).vram(39, 0x801).vram(64, 1).vram(71, 0x801).vram(16, h, 0).draw();
-            Rig other = picture().vram(64, 1).vram(71, 0x801).vram(16, 5, h).draw();
+            Rig rig = picture().vram(32, 1).vram(39, 0x801).vram(16, h, 0).draw();
+            Rig other = picture().vram(64, 1).vram(71, 0x801).vram(16, 0, h).draw();
             StringBuilder want = new StringBuilder();
             for (int x = 0; x < 16; x++) {
                 want.append(row.charAt(Math.floorMod(x - h, 32)));
             }
+            rig.dueLine("A scrolled by " + h, 0, want.toString());
             other.dueLine("B scrolled by " + h, 0, want.toString());
-            for (int x = 0; x < 16; x++) {
-                char a = want.charAt(x);
-                want.setCharAt(x, a == '0' ? row.charAt(x) : a);
-            }
-            rig.dueLine("A scrolled by " + h + ", B not", 0, want.toString());
         }
-        int[] down = {1, 3, 4, 8, 13, 15, 16, 17, 0xFFFF};
+    }
+
+    private static void scrolledDown() {
+        int[] down = {0, 1, 3, 4, 8, 12, 13, 15, 16, 17, 0x7FFF, 0x8000, 0xFFFF};
+        String[] rows = {"1234", "5670", "89ab", "cdef", "0000", "0000", "0000", "0000", "0000", "0000", "0000",
+            "0000", "cdef", "89ab", "5670", "1234"};
         for (int v : down) {
-            Rig rig = picture().vram(32, 1).vram(56, 0x1001).register(14, 2).control(0, 5).data(v, v + 1).draw();
-            Rig other = picture().vram(64, 1).vram(88, 0x1001).register(14, 2).control(0, 5).data(v + 1, v).draw();
-            String[] rows = {"1234", "5670", "89ab", "cdef", "0000", "0000", "0000", "0000", "0000", "0000", "0000",
-                "0000", "cdef", "89ab", "5670", "1234"};
+            Rig rig = vsram(picture().vram(32, 1).vram(56, 0x1001), v, v + 1).draw();
+            Rig other = vsram(picture().vram(64, 1).vram(88, 0x1001), v + 1, v).draw();
             for (int y = 0; y < 8; y++) {
                 String want = rows[(y + v) % 16] + "0".repeat(12);
                 rig.dueLine("A scrolled down by " + v, y, want);
                 other.dueLine("B scrolled down by " + v, y, want);
             }
         }
-        // Register 13's low five bits alone: word 31 * 16.
+    }
+
+    private static void whereHscrollStands() {
+        // The low five bits alone: word 31 * 16.
         Rig rig = picture().register(13, 0xFF).vram(32, 1).vram(64, 1).vram(496, 4, 8).draw();
-        rig.dueLine("HSCROLL at word 496", 0, "0000123412340000");
+        rig.dueLine("words 496 and 497", 0, "0000123412340000");
+        rig = picture().register(13, 0xE1).vram(32, 1).vram(64, 1).vram(16, 8, 4).draw();
+        rig.dueLine("words 16 and 17", 0, "0000123412340000");
+        // Words 0 and 1 are rows of pattern 0, too, but line 2 shows its row 2.
+        rig = picture().register(13, 0).vram(32, 1).vram(64, 1).vram(0, 4, 8).draw();
+        rig.dueLine("words 0 and 1", 2, "000089ab89ab0000");
+    }
+
+    private static void whereVscrollStands() {
+        Rig rig = vsram(picture().vram(32, 1).vram(65, 1), 1, 2).draw();
+        rig.dueLine("A by 1, B by 2", 0, "567089ab00000000");
+        rig.dueLine("A by 1, B by 2", 1, "89abcdef00000000");
+        rig.dueLine("A by 1, B by 2", 2, "cdef000000000000");
     }
 
     private static void window() {
-        for (int w = 0; w < 9; w++) {
-            Rig rig = picture().register(3, w + 8).vram(32, 1, 1, 1, 1, 1, 1, 1, 1).vram(16, 2, 2)
-                .register(14, 2).control(0, 5).data(1, 0).vram(64, 0x7F, 0x7F, 0x7F).vram(508, 0xFFFF).draw();
+        for (int w = 0; w < 17; w++) {
+            // Scrolled by 2 across and by 1 down: row 1 of the pattern from its third column on.
+            Rig rig = vsram(picture().register(3, w).vram(32, 1, 1, 1, 1, 1, 1, 1, 1).vram(16, 2), 1).draw();
             int still = Math.min(w % 8, 4);
-            String want = "1234".repeat(still) + "7056705670567056".substring(4 * still);
-            // 0 is seen through: plane B shows F from 2 to 13.
-            StringBuilder line = new StringBuilder(want);
-            for (int x = 0; x < 16; x++) {
-                if (line.charAt(x) == '0' && x >= 2 && x < 14) {
-                    line.setCharAt(x, 'f');
-                }
-            }
-            rig.dueLine("window of " + w, 0, line.toString());
+            rig.dueLine("window of " + w, 0, "1234".repeat(still) + "7056705670567056".substring(4 * still));
         }
+        Rig rig = vsram(picture().register(3, 0xF8).vram(32, 1).vram(16, 2), 1).draw();
+        rig.dueLine("the low three bits alone", 0, "0056700000000000");
+    }
+
+    private static void windowIsOfPlaneA() {
+        Rig rig = vsram(picture().register(3, 2).vram(64, 1, 1, 1, 1).vram(16, 0, 4), 0, 1).draw();
+        rig.dueLine("plane B is scrolled there", 0, "0000567056705670");
     }
 
     /** All orders of a high or low A and B, of which each may be seen through. */

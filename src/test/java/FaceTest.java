@@ -16,6 +16,11 @@ public final class FaceTest {
     }
 
     public static void main(String[] args) {
+        Check.that("The public face", FaceTest::face);
+        Check.end();
+    }
+
+    private static void face() {
         int modifiers = TwinConsole.class.getModifiers();
         Check.due("public and final", Modifier.isPublic(modifiers) && Modifier.isFinal(modifiers), true);
         Set<String> seen = new TreeSet<>();
@@ -36,6 +41,5 @@ public final class FaceTest {
         Constructor<?>[] makers = TwinConsole.class.getDeclaredConstructors();
         Check.due("constructors", makers.length, 1);
         Check.due("its parameters", makers[0].getParameterCount(), 0);
-        Check.end();
     }
 }

@@ -1,20 +1,24 @@
-/** Promise 5: lines, the counter, and the interrupts of both levels. */
+/** Promise 5: lines, the counter, and what becomes pending. */
 public final class LinesTest {
     private LinesTest() {
     }
 
     public static void main(String[] args) {
-        position();
-        levelSix();
-        levelFour();
-        counterValues();
-        counterInHiddenLines();
-        higherFirst();
-        masks();
-        waitingEnds();
-        pendingAtStatus();
-        interruptPortsOrder();
-        manyLinesInOneStep();
+        Check.that("LINES 0 .. 11 of 64 cycles", LinesTest::linesAndCycles);
+        Check.that("LINES 0 .. 11 (line 0 comes behind line 11)", LinesTest::lineZeroAgain);
+        Check.that("0 .. 7 are shown", LinesTest::shownLines);
+        Check.that("They go on behind each STEP; in a STEP line and cycle are as they were.", LinesTest::behindEachStep);
+        Check.that("one after the other", LinesTest::manyLinesInOneStep);
+        Check.that("When a line below 8 begins, it is DRAWN; then a COUNTER falls", LinesTest::counterFalls);
+        Check.that("when it was 0, it becomes register 8", LinesTest::counterValues);
+        Check.that("if register 0's bit 4 is 1, level 4 is pending", LinesTest::levelFour);
+        Check.that("in lines 8 .. 11 it becomes register 8 at their beginning", LinesTest::counterInHiddenLines);
+        Check.that("in lines 8 .. 11 it becomes register 8 (and nothing is pending for it)", LinesTest::nothingInHiddenLines);
+        Check.that("When line 8 begins, level 6 is pending if register 1's bit 5 is 1", LinesTest::levelSix);
+        Check.that("When line 8 begins (and no other line)", LinesTest::levelSixAtLineEightAlone);
+        Check.that("level 6 is pending (and stays so)", LinesTest::pendingStays);
+        Check.that("bit 2 the line is 8 or more", LinesTest::statusOfLines);
+        Check.that("bit 3 level 6 is pending", LinesTest::statusOfLevelSix);
         Check.end();
     }
 
@@ -23,7 +27,14 @@ public final class LinesTest {
         return rig.put(Rig.STOP, 0x700).start();
     }
 
-    private static void position() {
+    /** A new machine that waits since so many cycles. */
+    private static Rig waited(int cycles) {
+        Rig rig = waiting(new Rig());
+        rig.upTo(0, cycles);
+        return rig;
+    }
+
+    private static void linesAndCycles() {
         Rig rig = new Rig().read(0, Rig.POSITION).read(1, Rig.POSITION).put(0x60F6).start();
         int line = 0;
         int cycle = 0;
@@ -38,35 +49,92 @@ public final class LinesTest {
             line = (line + cycle / 64) % 12;
             cycle %= 64;
         }
-        rig = new Rig().write(Rig.POSITION, 0x0505).read(0, Rig.POSITION).read(1, Rig.POSITION + 1).start().steps(3);
-        rig.dueRegister("writing does nothing", 0, 16);
-        rig.dueRegister("odd", 1, 0);
     }
 
-    private static void levelSix() {
-        for (int bit = 0; bit < 8; bit++) {
-            Rig rig = waiting(new Rig().register(1, 1 << bit));
-            rig.upTo(0, 8 * 64 - 4);
-            rig.dueVideo("before line 8", 4, 3, 0);
-            rig.steps(1);
-            rig.dueVideo("line 8 begins, register 1 bit " + bit, 4, 3, bit == 5 ? 6 : 0);
-            rig.dueRegister("MASK 7 waits on", 11, 1);
-        }
-        Rig rig = waiting(new Rig().register(1, 32));
-        rig.upTo(0, 12 * 64);
-        rig.register(1, 0).put(Rig.STOP, 0x700).start();
-        rig.upTo(0, 12 * 64);
-        rig.dueVideo("it stays pending", 4, 3, 6);
+    private static void duePosition(int cycles, int line, int cycle) {
+        Rig rig = waited(cycles);
+        rig.read(0, Rig.POSITION).start().steps(1);
+        rig.dueRegister("after " + cycles + " cycles", 0, line * 256 + cycle);
     }
 
-    private static void levelFour() {
-        for (int bit = 0; bit < 8; bit++) {
-            Rig rig = waiting(new Rig().register(0, 1 << bit));
-            rig.upTo(0, 60);
-            rig.dueVideo("before line 1", 4, 3, 0);
-            rig.steps(1);
-            rig.dueVideo("line 1 begins, register 0 bit " + bit, 4, 3, bit == 4 ? 4 : 0);
+    private static void lineZeroAgain() {
+        for (int line = 0; line < 12; line++) {
+            duePosition(64 * line, line, 0);
+            duePosition(64 * line + 60, line, 60);
         }
+        duePosition(768, 0, 0);
+        duePosition(768 + 60, 0, 60);
+        duePosition(768 + 64, 1, 0);
+        duePosition(2 * 768 - 4, 11, 60);
+        duePosition(2 * 768, 0, 0);
+    }
+
+    private static void shownLines() {
+        for (int line = 1; line < 12; line++) {
+            Rig rig = waiting(new Rig().register(7, 3));
+            rig.upTo(0, 64 * line);
+            for (int y = 0; y < 8; y++) {
+                Check.due("line " + y + " as line " + line + " begins", rig.x.pixel(0, y), y > 0 && y <= line ? 3 : 0);
+            }
+        }
+    }
+
+    private static void behindEachStep() {
+        // The step that ends line 7 reads STATUS and POSITION as in line 7.
+        Rig rig = waited(508);
+        rig.read(0, Rig.CONTROL).read(1, Rig.CONTROL).start().steps(2);
+        rig.dueRegister("line 7", 0, 0);
+        rig.dueRegister("line 8", 1, 4);
+        rig = waited(508);
+        rig.read(0, Rig.POSITION).read(1, Rig.POSITION).start().steps(2);
+        rig.dueRegister("line 7", 0, 7 * 256 + 60);
+        rig.dueRegister("line 8", 1, 8 * 256 + 8);
+        // The step that ends line 0 sets register 7: line 1 is drawn with it.
+        rig = waited(60);
+        rig.register(7, 9).start().steps(1);
+        Check.due("line 1", rig.x.pixel(0, 1), 9);
+    }
+
+    /**
+     * The main one waits while the second reads 115 bytes of ROM that it has not waited for; its next instruction
+     * takes 1265 cycles more: 847 cycles, in line 1, become 2128, in line 9 of the turn after the next.
+     */
+    private static Rig late() {
+        Rig rig = new Rig().register(7, 9).write(Rig.RESET, 256).put(Rig.STOP, 0x700).seed(0, 0xC3, 0, 0x81);
+        rig.start().steps(2);
+        rig.dueStep("one byte", 15);
+        Check.due("waiting", rig.x.run(800), 800);
+        // 820 given, 10 for the jump, 7 for each byte of ROM.
+        rig.dueRegister("bytes of ROM", 15, 0x8100 + 116);
+        return rig;
+    }
+
+    private static void manyLinesInOneStep() {
+        Rig rig = late().register(1, 32).start();
+        rig.dueVideo("nothing is pending", 4, 3, 0);
+        rig.dueStep("115 bytes are owed", 16 + 11 * 115);
+        rig.dueVideo("line 8 began", 4, 3, 6);
+        rig = late().register(7, 5).start().steps(1);
+        for (int y = 0; y < 8; y++) {
+            Check.due("line " + y + " was drawn", rig.x.pixel(15, y), 5);
+        }
+        rig = late().register(0, 16).start().steps(1);
+        rig.dueVideo("lines below 8 began", 4, 3, 4);
+        rig = late().put(Rig.NOP).read(0, Rig.POSITION).start().steps(1);
+        int done = 847 + 4 + 11 * 115;
+        rig.steps(1);
+        rig.dueRegister("line and cycle", 0, done / 64 % 12 * 256 + done % 64);
+    }
+
+    private static void counterFalls() {
+        // Line 1 takes 3 into the counter; lines 2, 3, 4 let it fall to 0; line 5 is told.
+        Rig rig = waiting(new Rig().register(8, 3).register(1, 0));
+        rig.upTo(0, 64);
+        waiting(rig.register(0, 16));
+        rig.upTo(64, 5 * 64 - 4);
+        rig.dueVideo("lines 2, 3, 4", 4, 3, 0);
+        rig.steps(1);
+        rig.dueVideo("line 5", 4, 3, 4);
     }
 
     /** The counter is 0 at first, so line 1 takes register 8; then it falls to 0 and the next line is told. */
@@ -104,124 +172,105 @@ public final class LinesTest {
         rig.dueVideo("register 8 = " + value + ": line " + line, 4, 3, told ? 4 : 0);
     }
 
-    /** In lines 8 .. 11 the counter becomes register 8 at each beginning, and nothing is pending for it. */
-    private static void counterInHiddenLines() {
-        Rig rig = new Rig().register(8, 200).put(Rig.STOP, 0x700).start();
-        rig.upTo(0, 11 * 64 - 60);
-        rig.register(8, 2).register(0, 16).put(Rig.STOP, 0x700).start();
-        rig.upTo(11 * 64 - 60, 11 * 64);
-        rig.register(8, 5).put(Rig.STOP, 0x700).start();
-        rig.upTo(11 * 64, 14 * 64 - 4);
-        rig.dueVideo("2 of line 11 fell to 0 at line 1", 4, 3, 0);
+    private static void levelFour() {
+        for (int bit = 0; bit < 8; bit++) {
+            Rig rig = waiting(new Rig().register(0, 1 << bit));
+            rig.upTo(0, 60);
+            rig.dueVideo("before line 1", 4, 3, 0);
+            rig.steps(1);
+            rig.dueVideo("line 1 begins, register 0 bit " + bit, 4, 3, bit == 4 ? 4 : 0);
+        }
+        // Without the bit, the counter becomes register 8 all the same.
+        Rig rig = waiting(new Rig().register(8, 2).register(0, 0xEF));
+        rig.upTo(0, 64);
+        waiting(rig.register(0, 16));
+        rig.upTo(64, 4 * 64 - 4);
+        rig.dueVideo("2, 1, 0", 4, 3, 0);
         rig.steps(1);
-        rig.dueVideo("it was 0 at line 2", 4, 3, 4);
+        rig.dueVideo("line 4", 4, 3, 4);
     }
 
-    private static void higherFirst() {
-        Rig rig = waiting(new Rig().register(1, 32).register(0, 16));
-        rig.upTo(0, 9 * 64);
-        rig.dueVideo("both", 4, 3, 10);
-        rig.put(Rig.STOP, 0x30A).at(440, Rig.RTE).at(420, Rig.NOP).start().steps(1);
-        rig.dueStep("level 6", 44);
-        rig.dueVideo("level 4 is pending still", 4, 3, 4);
-        rig.dueRegister("PC", 9, 440);
-        rig.dueRegister("MASK 6, flags stay", 10, 0x60A);
-        rig.dueRegister("waits no more", 11, 0);
-        rig.dueMemory("MASK as it was, and flags", 632, 0x30A);
-        rig.dueMemory("0", 634, 0);
-        rig.dueMemory("PC behind", 636, 132);
-        rig.dueRegister("S", 8, 632);
-        rig.dueStep("back, level 4 is not above 6", 20);
-        rig.dueRegister("PC", 9, 132);
-        rig.dueRegister("MASK", 10, 0x30A);
-        rig.dueStep("level 4", 44);
-        rig.dueVideo("none", 4, 3, 0);
-        rig.dueRegister("PC", 9, 420);
-        rig.dueRegister("MASK 4", 10, 0x40A);
-        rig.dueStep("an instruction", 4);
-    }
-
-    private static void masks() {
-        for (int mask = 0; mask < 8; mask++) {
-            Rig rig = waiting(new Rig().register(1, 32));
-            rig.upTo(0, 9 * 64);
-            rig.jump(300, 256 * mask).at(300, Rig.NOP).start().steps(6);
-            rig.dueStep("level 6 with MASK " + mask, mask < 6 ? 44 : 4);
-            rig.dueRegister("MASK then", 10, mask < 6 ? 0x600 : 256 * mask);
-            rig = waiting(new Rig().register(0, 16));
-            rig.upTo(0, 9 * 64);
-            rig.jump(300, 256 * mask).at(300, Rig.NOP).start().steps(6);
-            rig.dueStep("level 4 with MASK " + mask, mask < 4 ? 44 : 4);
-            rig.dueRegister("MASK then", 10, mask < 4 ? 0x400 : 256 * mask);
+    /** Register 8 is 200, then 2 before a hidden line, then 5 as that line has begun. */
+    private static void counterInHiddenLines() {
+        for (int line = 8; line < 12; line++) {
+            Rig rig = waiting(new Rig().register(8, 200));
+            int before = line * 64 - 60;
+            rig.upTo(0, before);
+            waiting(rig.register(8, 2).register(0, 16));
+            rig.upTo(before, line * 64);
+            waiting(rig.register(8, 5));
+            rig.upTo(line * 64, 14 * 64 - 4);
+            rig.dueVideo("line 1", 4, 3, 0);
+            rig.steps(1);
+            // What line 11 took counts: 2 falls to 0 in lines 0 and 1; 5 doesn't.
+            rig.dueVideo("line 2, if 2 stood at line " + line, 4, 3, line == 11 ? 4 : 0);
         }
     }
 
-    private static void waitingEnds() {
-        Rig rig = new Rig().register(1, 32).put(Rig.STOP, 0x500, 0x7001).at(440, 0x7209, Rig.RTE).start();
-        rig.upTo(0, 512);
-        rig.dueRegister("waits", 11, 1);
-        rig.dueStep("the interrupt", 44);
-        rig.dueRegister("waits no more", 11, 0);
-        rig.steps(2);
-        rig.dueRegister("D1", 1, 9);
-        rig.dueRegister("behind the waiting", 9, 138);
-        rig.dueStep("on", 4);
-        rig.dueRegister("D0", 0, 1);
+    private static void nothingInHiddenLines() {
+        // Register 8 is 0, so that each shown line is told; the bit is set as line 7 has begun.
+        Rig rig = waited(7 * 64);
+        waiting(rig.register(0, 16));
+        rig.upTo(7 * 64, 12 * 64 - 4);
+        rig.dueVideo("lines 8 .. 11", 4, 3, 0);
+        rig.steps(1);
+        rig.dueVideo("line 0", 4, 3, 4);
     }
 
-    private static void pendingAtStatus() {
-        Rig rig = new Rig().register(1, 32).put(Rig.STOP, 0x700).start();
+    private static void levelSix() {
+        for (int bit = 0; bit < 8; bit++) {
+            Rig rig = waiting(new Rig().register(1, 1 << bit));
+            rig.upTo(0, 8 * 64 - 4);
+            rig.dueVideo("before line 8", 4, 3, 0);
+            rig.steps(1);
+            rig.dueVideo("line 8 begins, register 1 bit " + bit, 4, 3, bit == 5 ? 6 : 0);
+            rig.dueRegister("MASK 7 waits on", 11, 1);
+        }
+    }
+
+    private static void levelSixAtLineEightAlone() {
+        Rig rig = waited(8 * 64);
+        waiting(rig.register(1, 32));
+        rig.upTo(8 * 64, 20 * 64 - 4);
+        rig.dueVideo("lines 9 .. 11, 0 .. 7", 4, 3, 0);
+        rig.steps(1);
+        rig.dueVideo("line 8", 4, 3, 6);
+    }
+
+    private static void pendingStays() {
+        Rig rig = waiting(new Rig().register(1, 32).register(0, 16));
+        rig.x.run(512);
+        rig.dueVideo("both", 4, 3, 10);
+        waiting(rig.register(1, 0).register(0, 0));
+        rig.x.run(768);
+        rig.dueVideo("though the bits are 0 and line 8 began again", 4, 3, 10);
+    }
+
+    private static void statusOfLines() {
+        for (int line = 0; line < 13; line++) {
+            Rig rig = waited(64 * line);
+            rig.read(0, Rig.CONTROL).start().steps(1);
+            rig.dueRegister("line " + line, 0, line % 12 >= 8 ? 4 : 0);
+        }
+    }
+
+    private static void statusOfLevelSix() {
+        Rig rig = waiting(new Rig().register(1, 32));
         rig.upTo(0, 512);
         rig.read(0, Rig.CONTROL).read(1, Rig.CONTROL).start().steps(2);
-        rig.dueRegister("line 8 or more, level 6 is pending", 0, 12);
+        rig.dueRegister("line 8, level 6 is pending", 0, 12);
         rig.dueRegister("reading takes neither away", 1, 12);
-        rig.put(Rig.STOP, 0x700).start();
+        waiting(rig);
         rig.upTo(512 + 24, 768);
         rig.read(0, Rig.CONTROL).start().steps(1);
         rig.dueRegister("line 0, level 6 is pending", 0, 8);
-        rig = new Rig().put(Rig.STOP, 0x700).start();
-        rig.upTo(0, 508);
-        rig.read(0, Rig.CONTROL).read(1, Rig.CONTROL).start().steps(2);
-        rig.dueRegister("line 7", 0, 0);
-        rig.dueRegister("line 8", 1, 4);
-        rig = new Rig().register(0, 16).put(Rig.STOP, 0x700).start();
+        // Taken, it is pending no more.
+        rig.put(Rig.STOP, 0).at(440, 0x3038, Rig.CONTROL).start().steps(3);
+        rig.dueRegister("taken", 0, 0);
+        rig = waiting(new Rig().register(0, 16));
         rig.upTo(0, 128);
         rig.dueVideo("level 4", 4, 3, 4);
         rig.read(0, Rig.CONTROL).start().steps(1);
         rig.dueRegister("level 4 isn't in STATUS", 0, 0);
-    }
-
-    /** With S = 1030 an interrupt goes through the ports as any exception. */
-    private static void interruptPortsOrder() {
-        Rig rig = new Rig().register(1, 32).put(Rig.STOP, 0x700).start();
-        rig.upTo(0, 512);
-        rig.register(14, 2).control(8, Rig.VRAM).stackAt(1030).put(Rig.STOP, 0x105).start().steps(7);
-        rig.dueStep("the interrupt", 44);
-        rig.dueVideo("MASK and flags to DATA", 0, 4, 0x105);
-        rig.dueVideo("PC to CONTROL", 4, 0, 162);
-        rig.dueRegister("MASK", 10, 0x605);
-    }
-
-    /** The main one waits while the second reads ROM; then it owes so much that lines go on far. */
-    private static void manyLinesInOneStep() {
-        Rig rig = new Rig().register(7, 9).write(Rig.RESET, 256).put(Rig.STOP, 0x700);
-        rig.x.seed(0, 0xC3);
-        rig.x.seed(1, 0);
-        rig.x.seed(2, 0x81);
-        rig.start().steps(2);
-        rig.dueRegister("a byte of ROM", 15, 0x8101);
-        rig.dueStep("it was owed", 15);
-        Check.due("waiting", rig.x.run(800), 800);
-        // 820 given, 10 for the jump, 7 for each byte of ROM.
-        rig.dueRegister("bytes of ROM", 15, 0x8100 + 116);
-        rig.register(1, 32).register(7, 5).read(0, Rig.POSITION).start();
-        rig.dueVideo("nothing is pending", 4, 3, 0);
-        // 847 cycles are line 1; 847 + 1281 are line 9 of the turn after the next.
-        rig.dueStep("115 bytes are owed", 16 + 11 * 115);
-        rig.dueVideo("line 8 began", 4, 3, 6);
-        int more = rig.x.step() - 16;
-        rig.steps(1);
-        int done = 847 + 1281 + 16 + more;
-        rig.dueRegister("line and cycle", 0, done / 64 % 12 * 256 + done % 64);
     }
 }

@@ -8,10 +8,14 @@ public final class RandomPicturesTest {
     }
 
     public static void main(String[] args) {
+        Check.that("DRAWING line y", RandomPicturesTest::pictures);
+        Check.end();
+    }
+
+    private static void pictures() {
         for (int round = 0; round < 1500; round++) {
             picture(new Random(round), round);
         }
-        Check.end();
     }
 
     /** Fills VRAM by moves from ROM, draws with random registers, and compares all lines and STATUS. */
@@ -28,20 +32,21 @@ public final class RandomPicturesTest {
         for (int k = 0; k < 4; k++) {
             rig.register(11, 128).control(256 * k, Rig.VRAM + 32);
         }
+        int[] vram = new int[512];
         for (int k = 0; k < 128; k++) {
             int w = random.nextInt(65536);
             // Small numbers bring sprites onto the screen, and pixels that are seen through.
-            rig.x.rom(128 + k, half == 0 ? w : w & 0x9F37 & random.nextInt(65536));
+            w = half == 0 ? w : w & 0x9F37 & random.nextInt(65536);
+            rig.x.rom(128 + k, w);
+            for (int quarter = 0; quarter < 4; quarter++) {
+                vram[128 * quarter + k] = w;
+            }
         }
         rig.put(Rig.STOP, 0x700).start();
         for (int k = 0; k < 3; k++) {
             rig.x.run(800);
         }
         rig.dueRegister("waits", 11, 1);
-        int[] vram = new int[512];
-        for (int k = 0; k < 512; k++) {
-            vram[k] = rig.x.memory(256 + 2 * (k % 128));
-        }
         // STATUS tells what was met since it was read last: read it, then draw every line once.
         rig.read(0, Rig.CONTROL).put(Rig.STOP, 0x700).start();
         rig.x.run(772);

@@ -87,6 +87,25 @@ final class Rig {
         return this;
     }
 
+    /** Bytes of the second's RAM. */
+    Rig seed(int at, int... bytes) {
+        for (int k = 0; k < bytes.length; k++) {
+            x.seed(at + k, bytes[k]);
+        }
+        return this;
+    }
+
+    /** Takes the second out of RESET (16 cycles are given); then there are nothing but steps of four cycles. */
+    Rig out() {
+        return write(RESET, 256).put(STOP, 0x700).start().steps(1);
+    }
+
+    /** The registers for a move; kind is that of register 15's two high bits, ADDRESS grows by 2. */
+    Rig moving(int length, int source, int kind) {
+        return register(1, 16).register(11, length & 255).register(12, length >> 8)
+            .register(9, source & 255).register(10, source >> 8).register(15, kind << 6).register(14, 2);
+    }
+
     /** Starts from 128, without a step. */
     Rig start() {
         x.reset();

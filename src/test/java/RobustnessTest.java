@@ -14,12 +14,8 @@ public final class RobustnessTest {
 
     public static void main(String[] args) {
         for (int round = 0; round < 3000; round++) {
-            Random random = new Random(round);
-            try {
-                round(random, round);
-            } catch (RuntimeException e) {
-                Check.due("round " + round + " threw " + e, true, false);
-            }
+            int number = round;
+            Check.that("(no call throws or fails to end)", () -> round(new Random(number), number));
         }
         Check.end();
     }
@@ -37,7 +33,7 @@ public final class RobustnessTest {
         if (random.nextBoolean()) {
             x.reset();
         }
-        for (int k = 0; k < 120; k++) {
+        for (int k = 0; k < 75; k++) {
             call(x, random, round);
         }
         ranges(x, round);

@@ -7,18 +7,35 @@ public final class SpritesTest {
     }
 
     public static void main(String[] args) {
-        onePlace();
-        turned();
-        fields();
-        links();
-        linkRings();
-        firstStays();
-        collisions();
-        tooMany();
-        masks();
-        orderWithPlanes();
-        statusBits();
-        notLookedAtWhenOff();
+        Check.that("Y + 16; X + 16; each 4 by 4", SpritesTest::everyPlace);
+        Check.that("(its low 6 bits) (Y + 16)", SpritesTest::lowBitsOfY);
+        Check.that("X + 16 (low 6 bits)", SpritesTest::lowBitsOfX);
+        Check.that("link (low 3 bits)", SpritesTest::lowBitsOfLinks);
+        Check.that("a name (turned, its other bits)", SpritesTest::names);
+        Check.that("SPRITES 0 .. 7 of four words at word (register 5 & 15) * 32", SpritesTest::whereSpritesStand);
+        Check.that("From sprite 0 on by links", SpritesTest::byLinks);
+        Check.that("until link 0", SpritesTest::linkZeroEnds);
+        Check.that("at most 8", SpritesTest::atMostEight);
+        Check.that("From sprite 0 on by links, at most 8 (a ring of links)", SpritesTest::rings);
+        Check.that("those on the line are taken", SpritesTest::onTheLine);
+        Check.that("at most 3", SpritesTest::atMostThree);
+        Check.that("(a fourth: too many, and no more)", SpritesTest::fourth);
+        Check.that("(a fourth, a MASK, too: too many, and no more)", SpritesTest::fourthIsAMask);
+        Check.that("those on the line are taken (beside the screen, too)", SpritesTest::besideTheScreen);
+        Check.that("One with X + 16 = 0 that is on the line and is not the first taken MASKS all behind it: none of these"
+            + " is taken, nor too many.", SpritesTest::masks);
+        Check.that("One with X + 16 = 0 that is on the line", SpritesTest::maskOffTheLine);
+        Check.that("and is not the first taken", SpritesTest::firstIsNoMask);
+        Check.that("One with X + 16 = 0 (and not 1, nor 64)", SpritesTest::onlyZeroMasks);
+        Check.that("The first pixel of a sprite that is not seen through stays", SpritesTest::firstStays);
+        Check.that("another one there is a COLLISION", SpritesTest::collisions);
+        Check.that("another one there is a COLLISION (of 16 pixels)", SpritesTest::noCollisionBesideTheScreen);
+        Check.that("The pixel is the first not seen through of: high sprite, high A, high B, sprite, A, B; else register"
+            + " 7 & 15.", SpritesTest::orderWithPlanes);
+        Check.that("bit 5 sprites collided, bit 6 there were too many on a line, both since it was read last",
+            SpritesTest::statusBits);
+        Check.that("bit 5, bit 6 (each by itself)", SpritesTest::statusBitsApart);
+        Check.that("and sprites aren't looked at", SpritesTest::notLookedAtWhenOff);
         Check.end();
     }
 
@@ -46,7 +63,7 @@ public final class SpritesTest {
         Check.due(what + ": STATUS", rig.x.register(0) & 96, want);
     }
 
-    private static void onePlace() {
+    private static void everyPlace() {
         String[] rows = {"1234", "5670", "89ab", "cdef"};
         for (int x = -6; x < 20; x += x == 2 ? 8 : 1) {
             for (int y = -5; y < 10; y += y == -1 ? 4 : 1) {
@@ -66,45 +83,112 @@ public final class SpritesTest {
         }
     }
 
-    private static void turned() {
+    private static void lowBitsOfY() {
+        // 64 + 18, 0xFFC0 + 18: line 2.
+        int[] ys = {18, 64 + 18, 0xFFC0 + 18};
+        for (int y : ys) {
+            Rig rig = picture().vram(96, y, 0, 1, 16).draw();
+            rig.dueLine("above", 1, "0000000000000000");
+            rig.dueLine("Y + 16 = " + y, 2, "1234000000000000");
+            rig.dueLine("Y + 16 = " + y, 5, "cdef000000000000");
+            rig.dueLine("below", 6, "0000000000000000");
+        }
+        int[] off = {0, 12, 24, 48, 63, 64};
+        for (int y : off) {
+            Rig rig = picture().vram(96, y, 0, 1, 16).draw();
+            for (int line = 0; line < 8; line++) {
+                rig.dueLine("off the screen: Y + 16 = " + y, line, "0000000000000000");
+            }
+        }
+    }
+
+    private static void lowBitsOfX() {
+        int[] xs = {21, 64 + 21, 0xABC0 + 21};
+        for (int x : xs) {
+            Rig rig = picture().vram(96, 16, 0, 1, x).draw();
+            rig.dueLine("X + 16 = " + x, 0, "0000012340000000");
+        }
+        int[] off = {0, 12, 32, 48, 60, 63, 64};
+        for (int x : off) {
+            Rig rig = picture().vram(96, 16, 0, 1, x).draw();
+            rig.dueLine("off the screen: X + 16 = " + x, 0, "0000000000000000");
+        }
+    }
+
+    private static void lowBitsOfLinks() {
+        int[] links = {7, 15, 0xFFFF};
+        for (int link : links) {
+            Rig rig = picture().vram(96, 16, link, 1, 16).vram(124, 16, 0, 1, 21).draw();
+            rig.dueLine("link " + link, 0, "1234012340000000");
+        }
+        Rig rig = picture().vram(96, 16, 8, 1, 16).vram(100, 16, 0, 1, 21).vram(128, 16, 0, 1, 26).draw();
+        rig.dueLine("link 8 is link 0", 0, "1234000000000000");
+    }
+
+    private static void names() {
         Rig rig = sprites(picture(), sprite(0, 1, 0x801, 1), sprite(4, 1, 0x1001, 2), sprite(8, 1, 0x1801, 0)).draw();
         rig.dueLine("above", 0, "0000000000000000");
         rig.dueLine("row 0", 1, "4321cdeffedc0000");
         rig.dueLine("row 1", 2, "076589abba980000");
         rig.dueLine("row 3", 4, "fedc123443210000");
         rig.dueLine("below", 5, "0000000000000000");
+        rig = sprites(picture(), sprite(0, 0, 0x6781, 1), sprite(4, 0, 127, 0)).vram(508, 0x9999).draw();
+        rig.dueLine("other bits, and the last pattern", 0, "1234999900000000");
     }
 
-    /** The low six bits of Y and X, the low three of the link, and the low four of register 5 count. */
-    private static void fields() {
-        Rig rig = picture().register(5, 0xF3)
-            .vram(96, 0xFFC0 + 18, 0xFFF8 + 7, 0x6781, 0xABC0 + 21).vram(124, 18, 0, 1, 16).draw();
-        rig.dueLine("sprites 0 and 7", 2, "1234012340000000");
+    private static void whereSpritesStand() {
+        for (int k = 2; k < 16; k++) {
+            Rig rig = picture().register(2, 1).register(4, 1).register(5, k).vram(32 * k, 16, 0, 1, 16).draw();
+            rig.dueLine("at word " + 32 * k, 0, "1234000000000000");
+        }
+        Rig rig = picture().register(5, 0xF3).vram(96, 18, 0, 1, 16).draw();
+        rig.dueLine("the low four bits of register 5 alone", 2, "1234000000000000");
         rig = picture().register(5, 15).vram(480, 16, 7, 1, 16).vram(508, 19, 0, 1, 24).draw();
-        rig.dueLine("the last words of VRAM", 0, "1234000000000000");
-        rig.dueLine("the last words of VRAM", 3, "cdef000012340000");
-        // Y + 16 = 63 is below the screen, X + 16 = 63 right of it.
-        rig = picture().vram(96, 63, 1, 1, 16, 16, 0, 1, 63).draw();
-        rig.dueLine("off the screen", 0, "0000000000000000");
+        rig.dueLine("sprite 0 at word 480", 0, "1234000000000000");
+        rig.dueLine("sprite 7 is the last words of VRAM", 3, "cdef000012340000");
     }
 
-    private static void links() {
+    private static void byLinks() {
         // 0 -> 5 -> 2 -> end; sprite 1 is in no chain.
         Rig rig = picture().vram(96, 16, 5, 1, 16).vram(100, 16, 0, 1, 28).vram(104, 16, 0, 1, 20)
             .vram(116, 16, 2, 1, 24).draw();
-        rig.dueLine("by links", 0, "1234123412340000");
-        // Sprite 0 alone.
-        rig = picture().vram(96, 16, 0, 1, 16).vram(100, 16, 0, 1, 28).draw();
-        rig.dueLine("link 0 ends", 0, "1234000000000000");
-        // All eight, those on a line alone count.
-        rig = sprites(picture(), sprite(0, 0, 1, 1), sprite(0, 4, 1, 2), sprite(4, 0, 1, 3), sprite(4, 4, 1, 4),
+        rig.dueLine("0, 5, 2", 0, "1234123412340000");
+        // The order is that of the links: 2 comes before 1, so it stays where they meet.
+        rig = sprites(picture(), sprite(0, 0, 1, 2), sprite(8, 0, 1, 0), sprite(8, 0, 2, 1)).draw();
+        rig.dueLine("0, 2, 1", 0, "1234000022220000");
+    }
+
+    private static void linkZeroEnds() {
+        Rig rig = picture().vram(96, 16, 0, 1, 16).vram(100, 16, 0, 1, 28).draw();
+        rig.dueLine("sprite 0 alone", 0, "1234000000000000");
+        // One that is off the line ends the chain, too; and sprite 0 is not taken again.
+        rig = sprites(picture(), sprite(0, 0, 1, 1), sprite(0, 20, 1, 0), sprite(8, 0, 1, 0)).draw();
+        rig.dueLine("sprites 0 and 1", 0, "1234000000000000");
+        dueStatus("sprite 0 once", rig, 0);
+    }
+
+    private static void atMostEight() {
+        // All eight, three on each line.
+        Rig rig = sprites(picture(), sprite(0, 0, 1, 1), sprite(0, 4, 1, 2), sprite(4, 0, 1, 3), sprite(4, 4, 1, 4),
             sprite(8, 0, 1, 5), sprite(8, 4, 1, 6), sprite(0, 20, 1, 7), sprite(0, 30, 1, 0)).draw();
         rig.dueLine("three", 0, "1234123412340000");
         rig.dueLine("three", 7, "cdefcdefcdef0000");
         dueStatus("three are not too many", rig, 0);
+        // The eighth counts: sprite 7.
+        rig = sprites(picture(), sprite(0, 20, 1, 1), sprite(0, 20, 1, 2), sprite(0, 20, 1, 3), sprite(0, 20, 1, 4),
+            sprite(0, 20, 1, 5), sprite(0, 20, 1, 6), sprite(0, 20, 1, 7), sprite(8, 0, 1, 0)).draw();
+        rig.dueLine("the eighth", 0, "0000000012340000");
+        // A ring of seven: 0, 1, 2, 3, 4, 5, 6, then 1 as the eighth and last, which meets itself.
+        rig = sprites(picture(), sprite(0, 20, 1, 1), sprite(0, 0, 1, 2), sprite(0, 20, 1, 3), sprite(0, 20, 1, 4),
+            sprite(0, 20, 1, 5), sprite(0, 20, 1, 6), sprite(0, 20, 1, 1)).draw();
+        dueStatus("the eighth is sprite 1 again", rig, COLLIDED);
+        // 0, 1, 2, 3, 4, 5, 6, 7, then 1 would be the ninth.
+        rig = sprites(picture(), sprite(0, 20, 1, 1), sprite(0, 0, 1, 2), sprite(0, 20, 1, 3), sprite(0, 20, 1, 4),
+            sprite(0, 20, 1, 5), sprite(0, 20, 1, 6), sprite(0, 20, 1, 7), sprite(0, 20, 1, 1)).draw();
+        dueStatus("no ninth", rig, 0);
     }
 
-    private static void linkRings() {
+    private static void rings() {
         // Sprite 1 links to itself, off the line: the chain ends after eight.
         Rig rig = sprites(picture(), sprite(0, 0, 1, 1), sprite(0, 20, 1, 1)).draw();
         rig.dueLine("a ring off the line", 0, "1234000000000000");
@@ -113,14 +197,20 @@ public final class SpritesTest {
         rig = sprites(picture(), sprite(0, 0, 1, 1), sprite(8, 0, 1, 1)).draw();
         rig.dueLine("a ring on the line", 0, "1234000012340000");
         dueStatus("a ring on the line", rig, COLLIDED + TOO_MANY);
-        // A ring of seven: 0, 1, 2, 3, 4, 5, 6, then 1 as the eighth and last.
-        rig = sprites(picture(), sprite(0, 20, 1, 1), sprite(0, 0, 1, 2), sprite(0, 20, 1, 3), sprite(0, 20, 1, 4),
-            sprite(0, 20, 1, 5), sprite(0, 20, 1, 6), sprite(0, 20, 1, 1)).draw();
-        dueStatus("the eighth is sprite 1 again", rig, COLLIDED);
-        // 0, 1, 2, 3, 4, 5, 6, 7, then 1 would be the ninth.
-        rig = sprites(picture(), sprite(0, 20, 1, 1), sprite(0, 0, 1, 2), sprite(0, 20, 1, 3), sprite(0, 20, 1, 4),
-            sprite(0, 20, 1, 5), sprite(0, 20, 1, 6), sprite(0, 20, 1, 7), sprite(0, 20, 1, 1)).draw();
-        dueStatus("no ninth", rig, 0);
+    }
+
+    private static void onTheLine() {
+        // Each line of a sprite takes it: four lines, not the one before nor the one behind.
+        Rig rig = sprites(picture(), sprite(0, 0, 1, 1), sprite(4, 1, 1, 2), sprite(8, 4, 1, 0)).draw();
+        rig.dueLine("line 0", 0, "1234000000000000");
+        rig.dueLine("line 1", 1, "5670123400000000");
+        rig.dueLine("line 3", 3, "cdef89ab00000000");
+        rig.dueLine("line 4", 4, "0000cdef12340000");
+        rig.dueLine("line 5", 5, "0000000056700000");
+        // Y = -3 is on line 0 with its last row, Y = -4 is not; Y = 7 is on line 7 with its first, Y = 8 is not.
+        rig = sprites(picture(), sprite(0, -3, 1, 1), sprite(4, -4, 1, 2), sprite(8, 7, 1, 3), sprite(12, 8, 1, 0)).draw();
+        rig.dueLine("line 0", 0, "cdef000000000000");
+        rig.dueLine("line 7", 7, "0000000012340000");
     }
 
     private static void firstStays() {
@@ -147,73 +237,112 @@ public final class SpritesTest {
         rig = picture().vram(4, 0x0111, 0x0111, 0x0111, 0x0111);
         sprites(rig, sprite(5, 0, 2, 1), sprite(8, 0, 1, 0)).draw();
         dueStatus("the second is seen through", rig, 0);
-        // Off the screen there are no pixels.
-        rig = sprites(picture(), sprite(-4, 0, 2, 1), sprite(-4, 0, 2, 0)).draw();
+    }
+
+    private static void noCollisionBesideTheScreen() {
+        Rig rig = sprites(picture(), sprite(-4, 0, 2, 1), sprite(-4, 0, 2, 0)).draw();
         dueStatus("left of the screen", rig, 0);
         rig = sprites(picture(), sprite(16, 0, 2, 1), sprite(16, 0, 2, 0)).draw();
         dueStatus("right of the screen", rig, 0);
+        rig = sprites(picture(), sprite(0, 8, 2, 1), sprite(0, 8, 2, 0)).draw();
+        dueStatus("below the screen", rig, 0);
         rig = sprites(picture(), sprite(15, 0, 2, 1), sprite(15, 0, 2, 0)).draw();
         dueStatus("the last pixel", rig, COLLIDED);
         rig = sprites(picture(), sprite(-3, 0, 2, 1), sprite(-3, 0, 2, 0)).draw();
         dueStatus("the first pixel", rig, COLLIDED);
-        rig = sprites(picture(), sprite(0, 8, 2, 1), sprite(0, 8, 2, 0)).draw();
-        dueStatus("below the screen", rig, 0);
     }
 
-    private static void tooMany() {
+    private static void atMostThree() {
+        Rig rig = sprites(picture(), sprite(0, 0, 1, 1), sprite(4, 0, 1, 2), sprite(8, 0, 1, 3), sprite(12, 4, 1, 0)).draw();
+        rig.dueLine("three", 0, "1234123412340000");
+        rig.dueLine("three", 3, "cdefcdefcdef0000");
+        rig.dueLine("one", 4, "0000000000001234");
+        dueStatus("three are not too many", rig, 0);
+    }
+
+    private static void fourth() {
         Rig rig = sprites(picture(), sprite(0, 0, 1, 1), sprite(4, 0, 1, 2), sprite(8, 0, 1, 3), sprite(12, 3, 1, 0))
             .draw();
         rig.dueLine("three", 0, "1234123412340000");
         rig.dueLine("the fourth is not taken", 3, "cdefcdefcdef0000");
         rig.dueLine("alone", 4, "0000000000005670");
         dueStatus("four on line 3", rig, TOO_MANY);
-        rig = sprites(picture(), sprite(0, 0, 1, 1), sprite(4, 0, 1, 2), sprite(8, 0, 1, 3), sprite(12, 4, 1, 0)).draw();
-        dueStatus("three on each line", rig, 0);
-        // Those off the screen to a side count; a fourth that would collide doesn't.
-        rig = sprites(picture(), sprite(20, 0, 1, 1), sprite(30, 0, 1, 2), sprite(8, 0, 1, 3), sprite(8, 0, 1, 0)).draw();
-        rig.dueLine("three", 0, "0000000012340000");
-        dueStatus("no collision of the fourth", rig, TOO_MANY);
-        // No more: a fifth is not taken either.
-        rig = sprites(picture(), sprite(0, 0, 1, 1), sprite(4, 0, 1, 2), sprite(8, 0, 1, 3), sprite(12, 0, 1, 4),
+        // No more: a fifth is not taken either, nor does it collide.
+        rig = sprites(picture(), sprite(0, 0, 1, 1), sprite(4, 0, 1, 2), sprite(8, 0, 1, 3), sprite(0, 0, 1, 4),
             sprite(12, 0, 1, 0)).draw();
         rig.dueLine("no fifth", 0, "1234123412340000");
+        dueStatus("no collision of the fourth", rig, TOO_MANY);
+    }
+
+    private static void fourthIsAMask() {
+        Rig rig = sprites(picture(), sprite(0, 0, 1, 1), sprite(4, 0, 1, 2), sprite(8, 0, 1, 3), sprite(-16, 0, 1, 4),
+            sprite(12, 0, 1, 0)).draw();
+        rig.dueLine("three", 0, "1234123412340000");
+        dueStatus("a mask as the fourth", rig, TOO_MANY);
+    }
+
+    private static void besideTheScreen() {
+        Rig rig = sprites(picture(), sprite(20, 0, 1, 1), sprite(30, 0, 1, 2), sprite(8, 0, 1, 3), sprite(0, 0, 1, 0)).draw();
+        rig.dueLine("right of the screen they count", 0, "0000000012340000");
+        dueStatus("four", rig, TOO_MANY);
+        rig = sprites(picture(), sprite(-15, 0, 1, 1), sprite(-4, 0, 1, 2), sprite(8, 0, 1, 3), sprite(0, 0, 1, 0)).draw();
+        rig.dueLine("left of the screen they count", 0, "0000000012340000");
+        dueStatus("four", rig, TOO_MANY);
+        // Those that are seen through count, too.
+        rig = sprites(picture(), sprite(0, 0, 0, 1), sprite(0, 0, 0, 2), sprite(0, 0, 0, 3), sprite(0, 0, 1, 0)).draw();
+        rig.dueLine("seen through they count", 0, "0000000000000000");
+        dueStatus("four, without a collision", rig, TOO_MANY);
     }
 
     private static void masks() {
-        // The first taken with X + 16 = 0 masks nothing, but counts.
+        Rig rig = sprites(picture(), sprite(0, 0, 1, 1), sprite(-16, 0, 1, 2), sprite(4, 0, 1, 3), sprite(8, 0, 1, 4),
+            sprite(12, 0, 1, 0)).draw();
+        for (int y = 0; y < 4; y++) {
+            String[] rows = {"1234", "5670", "89ab", "cdef"};
+            rig.dueLine("none behind the second", y, rows[y] + "0".repeat(12));
+        }
+        dueStatus("five are not too many", rig, 0);
+        // As the third it masks the fourth.
+        rig = sprites(picture(), sprite(0, 0, 1, 1), sprite(4, 0, 1, 2), sprite(-16, 0, 1, 3), sprite(8, 0, 1, 4),
+            sprite(12, 0, 1, 0)).draw();
+        rig.dueLine("none behind the third", 0, "1234123400000000");
+        dueStatus("five are not too many", rig, 0);
+        // Those behind it don't collide, either.
+        rig = sprites(picture(), sprite(0, 0, 1, 1), sprite(-16, 0, 1, 2), sprite(0, 0, 1, 0)).draw();
+        dueStatus("no collision", rig, 0);
+    }
+
+    private static void maskOffTheLine() {
+        Rig rig = sprites(picture(), sprite(0, 0, 1, 1), sprite(-16, 2, 1, 2), sprite(4, 0, 1, 3), sprite(8, 0, 1, 4),
+            sprite(12, 2, 1, 0)).draw();
+        rig.dueLine("not on the line: three", 1, "5670567056700000");
+        rig.dueLine("on the line: one", 2, "89ab000000000000");
+        rig.dueLine("on the line: one", 3, "cdef000000000000");
+        rig.dueLine("the first taken masks nothing", 5, "000000000000cdef");
+        dueStatus("masked ones are not too many", rig, 0);
+    }
+
+    private static void firstIsNoMask() {
         Rig rig = sprites(picture(), sprite(-16, 0, 1, 1), sprite(0, 0, 1, 2), sprite(4, 0, 1, 0)).draw();
         rig.dueLine("the first masks nothing", 0, "1234123400000000");
         dueStatus("three", rig, 0);
         rig = sprites(picture(), sprite(-16, 0, 1, 1), sprite(0, 0, 1, 2), sprite(4, 0, 1, 3), sprite(8, 0, 1, 0)).draw();
-        rig.dueLine("it counts", 0, "1234123400000000");
-        dueStatus("four", rig, TOO_MANY);
-        // Not the first: those behind it are gone, and not too many.
-        rig = sprites(picture(), sprite(0, 0, 1, 1), sprite(-16, 2, 1, 2), sprite(4, 0, 1, 3), sprite(8, 0, 1, 4),
-            sprite(12, 2, 1, 0)).draw();
-        rig.dueLine("not on the line: three", 1, "5670567056700000");
-        rig.dueLine("on the line: one", 2, "89ab000000000000");
-        rig.dueLine("behind those", 5, "000000000000cdef");
-        dueStatus("masked ones are not too many", rig, 0);
-        // A mask as the fourth is too many.
-        rig = sprites(picture(), sprite(0, 0, 1, 1), sprite(4, 0, 1, 2), sprite(8, 0, 1, 3), sprite(-16, 0, 1, 0)).draw();
-        rig.dueLine("three", 0, "1234123412340000");
-        dueStatus("a mask as the fourth", rig, TOO_MANY);
-        // As the third it masks the fourth.
-        rig = sprites(picture(), sprite(0, 0, 1, 1), sprite(4, 0, 1, 2), sprite(-16, 0, 1, 3), sprite(8, 0, 1, 4),
-            sprite(12, 0, 1, 0)).draw();
-        rig.dueLine("two", 0, "1234123400000000");
-        dueStatus("a mask as the third", rig, 0);
+        rig.dueLine("but it is taken", 0, "1234123400000000");
+        dueStatus("so four are too many", rig, TOO_MANY);
         // Two of them: the second one masks.
         rig = sprites(picture(), sprite(-16, 0, 1, 1), sprite(-16, 0, 1, 2), sprite(8, 0, 1, 0)).draw();
-        rig.dueLine("none", 0, "0000000000000000");
-        // The first of the chain may be off the line: it is not the first taken.
+        rig.dueLine("the second masks", 0, "0000000000000000");
+        // The first of the chain may be off the line: then the next is the first taken.
         rig = sprites(picture(), sprite(0, 20, 1, 1), sprite(-16, 0, 1, 2), sprite(8, 0, 1, 0)).draw();
         rig.dueLine("the first taken", 0, "0000000012340000");
-        // The low six bits alone count.
-        rig = sprites(picture(), sprite(0, 0, 1, 1), new int[] {16, 2, 1, 0xFFC0}, sprite(8, 0, 1, 0)).draw();
-        rig.dueLine("X + 16 = 0", 0, "1234000000000000");
-        rig = sprites(picture(), sprite(0, 0, 1, 1), sprite(-15, 0, 1, 2), sprite(8, 0, 1, 0)).draw();
-        rig.dueLine("X + 16 = 1", 0, "1234000012340000");
+    }
+
+    private static void onlyZeroMasks() {
+        int[][] cases = {{0, 1}, {64, 1}, {0xFFC0, 1}, {1, 0}, {63, 0}, {65, 0}};
+        for (int[] one : cases) {
+            Rig rig = sprites(picture(), sprite(0, 0, 1, 1), new int[] {16, 2, 1, one[0]}, sprite(8, 0, 1, 0)).draw();
+            rig.dueLine("X + 16 = " + one[0], 0, one[1] == 1 ? "1234000000000000" : "1234000012340000");
+        }
     }
 
     /** All eight orders of high or low sprite (1), A (2), B (3), where each may be seen through. */
@@ -251,6 +380,16 @@ public final class SpritesTest {
         // They come again with the next picture.
         rig.register(1, 64).draw();
         dueStatus("again", rig, COLLIDED + TOO_MANY);
+    }
+
+    private static void statusBitsApart() {
+        Rig rig = sprites(picture(), sprite(0, 0, 1, 1), sprite(0, 0, 1, 0)).draw();
+        dueStatus("collided alone", rig, COLLIDED);
+        rig = sprites(picture(), sprite(0, 0, 1, 1), sprite(4, 0, 1, 2), sprite(8, 0, 1, 3), sprite(12, 0, 1, 0)).draw();
+        dueStatus("too many alone", rig, TOO_MANY);
+        // They stay though later lines have neither.
+        rig = sprites(picture(), sprite(0, -3, 1, 1), sprite(0, -3, 1, 0)).draw();
+        dueStatus("line 0 alone", rig, COLLIDED);
     }
 
     private static void notLookedAtWhenOff() {
