@@ -440,6 +440,16 @@ public final class MovesTest {
             rig.dueVideo("register 14 stays", 3, 14, 2);
             rig.dueVideo("register 15 stays", 3, 15, kind << 6);
         }
+        // One word alone, and the words before the last one.
+        int[] lengths = {1, 2, 3};
+        for (int length : lengths) {
+            Rig rig = moving(length, 0, 0).control(0, MOVE + 1).start().steps(9);
+            for (int k = 0; k < length; k++) {
+                rig.dueVideo("register 11 before word " + k, 3, 11, length);
+                rig.dueStep("a word", 2);
+            }
+            rig.dueVideo("register 11 behind the last", 3, 11, 0);
+        }
         // So the next move, without a new length, has 512.
         Rig rig = moving(1, 0, 3).control(0, MOVE).control(0, MOVE).go();
         rig.dueVideo("ADDRESS", 4, 0, 1024);
